@@ -539,7 +539,7 @@ public final class DayMarket {
             return NOTHING;
         }
         Slot place = slots[slot];
-        int held = place.thing;
+        int was = place.thing;
         place.thing = thing;
         if (thing == HOLDS_DAY) {
             place.kind = now.kind[k];
@@ -549,7 +549,7 @@ public final class DayMarket {
         } else {
             place.number = k;
         }
-        return held;
+        return was;
     }
 
     public int ask(int slot, int kind) {

@@ -101,6 +101,10 @@ public final class FutureTest {
         DayMarket fresh = new DayMarket();
         D.due("of several the least", fresh.richest(0, 0), 0);
         D.due("coins", fresh.richest(100, 1), 100);
+        for (int one = 5; one >= 0; one--) {
+            fresh.gives(one, 0, 200 - one);
+            D.due("richest is " + one, fresh.richest(0, 0), one);
+        }
         for (int seed = 1; seed < 8; seed++) {
             DayMarket x = busy(seed);
             int who = x.richest(20, 0);
@@ -329,7 +333,10 @@ public final class FutureTest {
 
     private static void onlyThought() {
         DayMarket x = busy(3);
+        D.due("ten days: every row is full", x.deal(1), 1);
         x.sheet(0, 0, 24);
+        x.falseMany();
+        x.isTrue(0);
         int[] before = all(x);
         x.emptied(x.told(0, 4));
         x.behind(0, 100, 0);

@@ -134,6 +134,10 @@ public final class SalesTest {
         D.due("SALES", x.ledger(0), 1);
         D.due("LOST", x.ledger(1), 60);
         D.due("COINS of all", x.ledger(2), 9999 + 400 + 40);
+        x.sale(0, 0, 0);
+        x.sale(0, 2, 7);
+        D.due("LOST grows", x.ledger(1), 67);
+        D.due("SALES grow", x.ledger(0), 3);
         for (int bad : new int[] {-1, 3, MIN, MAX}) {
             D.due("ledger wrong", x.ledger(bad), DayMarket.BAD);
         }
@@ -176,6 +180,10 @@ public final class SalesTest {
         D.due("behind set", x.falseMany(), 4);
         x.set(4, 2, 2);
         D.due("behind set", x.falseMany(), 3);
+        DayMarket y = new DayMarket();
+        y.day(0, 5, 9, 0);
+        y.day(0, 5, 1, 0);
+        D.due("the first one is false", y.falseMany(), 1);
     }
 
     private static void fill() {
@@ -206,6 +214,16 @@ public final class SalesTest {
             D.due("fill of no what", x.fill(0, bad), DayMarket.BAD);
         }
         D.due("nothing changed", x.ledger(2), 500);
+        DayMarket y = new DayMarket();
+        y.day(5, 1, 4, 0);
+        y.day(5, 1, 4, 1);
+        y.day(5, 1, 4, 1);
+        y.gives(4, 0, 9999);
+        D.due("one of three with one date", y.fill(4, 0), 1);
+        D.due("the first is its own", y.fill(0, 0), 2);
+        D.due("the last two are its own", y.fill(1, 0), 1);
+        y.sale(2, 0, 0);
+        D.due("the first and the last are its own", y.fill(0, 0), 2);
     }
 
     private static void fillOfSeveral() {
@@ -217,6 +235,10 @@ public final class SalesTest {
         x.gives(5, 1, 4);
         x.gives(5, 0, 5);
         D.due("of several the least as bits", x.fill(5, 0), 1);
+        DayMarket w = new DayMarket();
+        w.day(5, 1, 9, 1);
+        D.due("the least joy is more than none", w.fill(0, 0), 1);
+        D.due("the least joy", w.fill(0, 1), 1);
         DayMarket y = new DayMarket();
         y.day(0, 1, 1, 0);
         y.day(0, 2, 1, 0);

@@ -40,10 +40,12 @@ public final class SheetsTest {
         D.due("still MISSING", x.mark(0, 0, 0), DayMarket.NOTHING);
         D.due("24 places", x.sheet(0, 0, 24), 24);
         D.due("a place", x.mark(0, 23, 5), 1);
+        D.due("a place", x.mark(0, 0, 6), 1);
         D.due("wrong ones change nothing", x.sheet(0, 1, -1), DayMarket.SIZE);
         D.due("wrong ones change nothing", at(x, 0, 23), 5);
         D.due("anew", x.sheet(0, 0, 24), 24);
         D.due("all 0", at(x, 0, 23), 0);
+        D.due("all 0", at(x, 0, 0), 0);
         D.due("0 places", x.sheet(0, 1, 0), 0);
         D.due("no place", x.mark(0, 0, 0), DayMarket.INDEX);
         D.due("MISSING, n any", x.sheet(0, -1, MAX), 0);

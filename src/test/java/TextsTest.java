@@ -47,6 +47,15 @@ public final class TextsTest {
         D.due("trim", x.trim(7), 7);
         D.due("bytes", x.count(6), 7);
         D.due("what was cut is gone", x.trim(8), DayMarket.BAD);
+        DayMarket y = new DayMarket();
+        Due.feed(y, "fine 1234");
+        y.trim(7);
+        y.text();
+        D.due("what was cut is not read", y.fine(0), 12);
+        Due.feed(y, "fine c+c");
+        y.trim(6);
+        y.text();
+        D.due("what was cut is not read", y.fine(0), 100);
     }
 
     private static void fault(String s, int place) {
@@ -62,6 +71,14 @@ public final class TextsTest {
         fault("price", 5);
         fault("price  ", 7);
         fault("pric t", 0);
+        fault("xrice t", 0);
+        fault("pricx t", 0);
+        fault("price tz", 6);
+        fault("price zt", 6);
+        fault("price ta", 6);
+        fault("price t{", 7);
+        fault("price t`", 7);
+        fault("price 9/1:", 9);
         fault("  prices t", 2);
         fault("pricet", 0);
         fault("Price t", 0);
@@ -273,6 +290,11 @@ public final class TextsTest {
         D.due("as the image: texts", x.count(4), 3);
         D.due("as the image: no text", x.textTold(3, 0), DayMarket.BAD);
         D.due("its number again", Due.text(x, "price 9"), 3);
+        x.back();
+        Due.text(x, "fine !9");
+        x.back();
+        Due.text(x, "fine 5");
+        D.due("nothing is left of what had its number", x.fine(0), 5);
     }
 
     private static void price() {
