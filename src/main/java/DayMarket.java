@@ -354,7 +354,14 @@ public final class DayMarket {
         if (now.days == 0) {
             return NONE;
         }
-        compareWear(sheets[sheet]);
+        Row row = sheets[sheet];
+        startDifferences();
+        for (int place = 0; place < row.length; place++) {
+            if (row.isNumber(place)) {
+                addDifferences(row.places[place]);
+            }
+            thought.goOn(1);
+        }
         int best = 0;
         for (int day = 1; day < now.days; day++) {
             if (differences[day] < differences[best]) {
@@ -728,18 +735,16 @@ public final class DayMarket {
         }
     }
 
-    private void compareWear(Row row) {
+    private void startDifferences() {
+        thought.become(now);
         for (int day = 0; day < MOST_DAYS; day++) {
             differences[day] = 0;
         }
-        thought.become(now);
-        for (int place = 0; place < row.length; place++) {
-            if (row.isNumber(place)) {
-                for (int day = 0; day < thought.days; day++) {
-                    differences[day] += Math.abs(thought.wear[day] - row.places[place]);
-                }
-            }
-            thought.goOn(1);
+    }
+
+    private void addDifferences(int number) {
+        for (int day = 0; day < thought.days; day++) {
+            differences[day] += Math.abs(thought.wear[day] - number);
         }
     }
 

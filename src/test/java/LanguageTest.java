@@ -3,7 +3,11 @@ import java.lang.reflect.Method;
 import java.lang.reflect.Modifier;
 import java.nio.file.Files;
 import java.nio.file.Path;
+import java.util.ArrayList;
+import java.util.List;
+import java.util.Map;
 import java.util.Set;
+import java.util.TreeMap;
 import java.util.TreeSet;
 import java.util.regex.Matcher;
 import java.util.regex.Pattern;
@@ -19,6 +23,7 @@ public final class LanguageTest {
         libraryCalls(bare);
         face();
         classes();
+        methods(bare);
         D.end();
     }
 
@@ -106,5 +111,43 @@ public final class LanguageTest {
             }
         }
         D.due("at most twenty fields: " + type.getName(), own <= 20 ? 1 : 0, 1);
+    }
+
+    private static void methods(String bare) {
+        Map<String, String> bodies = new TreeMap<>();
+        Matcher m = Pattern.compile("(?m)^( +)(?:[\\w\\[\\]]+ )*(\\w+)\\(([^()]*)\\) \\{\\R(?s:(.*?))^\\1\\}").matcher(bare);
+        int at = 0;
+        while (m.find(at)) {
+            at = m.end(3);
+            if (m.group(2).matches("if|for|while|switch")) {
+                continue;
+            }
+            D.due("at most sixty lines: " + m.group(2), m.group(4).lines().count() <= 60 ? 1 : 0, 1);
+            D.due("at most seven numbers: " + m.group(2), m.group(3).split(",").length <= 7 ? 1 : 0, 1);
+            bodies.merge(m.group(2), m.group(4), String::concat);
+        }
+        for (Method method : DayMarket.class.getDeclaredMethods()) {
+            D.due("its lines were found: " + method.getName(), bodies.containsKey(method.getName()) ? 1 : 0, 1);
+            int deep = depth(method.getName(), bodies, new ArrayList<>());
+            D.due("at most eight deep: " + method.getName() + " " + deep, deep <= 8 ? 1 : 0, 1);
+        }
+    }
+
+    /** How many calls stand open at most, of those that call one another each once. */
+    private static int depth(String name, Map<String, String> bodies, List<String> open) {
+        open.add(name);
+        int most = 0;
+        Set<String> called = new TreeSet<>();
+        Matcher m = Pattern.compile("\\b(\\w+)\\(").matcher(bodies.get(name));
+        while (m.find()) {
+            called.add(m.group(1));
+        }
+        for (String other : called) {
+            if (bodies.containsKey(other) && !open.contains(other)) {
+                most = Math.max(most, depth(other, bodies, open));
+            }
+        }
+        open.remove(name);
+        return 1 + most;
     }
 }

@@ -4,7 +4,7 @@ import java.util.Arrays;
 import java.util.List;
 import java.util.Random;
 
-/** Runs of random calls, on a DayMarket and on the Model: every answer is held against the other's. */
+/** Runs of 512 random calls, on a DayMarket and on the Model: every answer is held against the other's. */
 public final class ModelTest {
     private static final Due D = new Due();
     /** Each call with the ranges of its numbers; a little beyond them comes too. */
@@ -17,6 +17,12 @@ public final class ModelTest {
         "sheet 0 3 -1 1 0 24", "sheet 0 3 0 1 0 24", "mark 0 3 0 23 -99999 99999", "mark 0 3 0 23 0 99", "mark 0 3 0 23 -1000000005 -1000000005",
         "pour 0 3", "reads 0 3", "copy 0 3 0 24 0 3 0 24 0 24", "copy 0 3 0 4 0 3 0 4 0 4", "lay 0 4 0 3 0 9", "lay 0 4 3 3 * *", "ask 0 4 0 5",
         "item 0 4 0 23", "rest 0 4 * *", "rest 0 4 -9 9", "tell 0 30", "check 1 30", "check 1 2", "keep", "back", "count 0 7"};
+
+    private static final int MOST_CALLS = 512;
+    /** Bounds of the document and of the machine, and what stands right beside them. */
+    private static final int[] EDGES = {Integer.MIN_VALUE, Integer.MIN_VALUE + 1, DayMarket.NONE, -100000, -99999, -32769, -32768, -2, -1, 0, 1, 2, 3, 4,
+        5, 6, 9, 10, 11, 13, 14, 23, 24, 25, 30, 31, 60, 61, 95, 96, 97, 99, 100, 101, 9999, 10000, 32767, 32768, 65535, 65536, 99999, 100000,
+        Integer.MAX_VALUE - 1, Integer.MAX_VALUE};
 
     private final Random lot;
     private final DayMarket x = new DayMarket();
@@ -37,7 +43,7 @@ public final class ModelTest {
     }
 
     private void run(long seed) throws Exception {
-        while (calls < 480) {
+        while (calls < MOST_CALLS) {
             int kind = lot.nextInt(100);
             if (kind < 12) {
                 tellText(seed);
@@ -51,8 +57,7 @@ public final class ModelTest {
 
     private int number(String least, String most) {
         if (least.equals("*")) {
-            int[] edges = {0, 1, -1, Integer.MIN_VALUE, Integer.MAX_VALUE};
-            return lot.nextInt(3) == 0 ? edges[lot.nextInt(edges.length)] : lot.nextInt();
+            return lot.nextInt(3) == 0 ? EDGES[lot.nextInt(EDGES.length)] : lot.nextInt();
         }
         int from = Integer.parseInt(least);
         int to = Integer.parseInt(most);
@@ -66,6 +71,9 @@ public final class ModelTest {
         if (luck == 2) {
             return lot.nextInt();
         }
+        if (luck == 3) {
+            return EDGES[lot.nextInt(EDGES.length)];
+        }
         return from + lot.nextInt(to - from + 1);
     }
 
@@ -77,7 +85,11 @@ public final class ModelTest {
         return call(seed, words[0], numbers);
     }
 
+    /** Behind the last call that the document tells of, nothing is asked. */
     private int call(long seed, String name, int... numbers) throws Exception {
+        if (calls == MOST_CALLS) {
+            return DayMarket.BAD;
+        }
         Class<?>[] types = new Class<?>[numbers.length];
         Object[] given = new Object[numbers.length];
         for (int i = 0; i < numbers.length; i++) {

@@ -21,11 +21,15 @@ public final class RoomTest {
         D.end();
     }
 
+    /** 12 calls, and 25 times 20. */
     private static void dearCalls(DayMarket x) {
         x.deal(10);
         x.sheet(0, 1, 24);
         x.keep();
-        for (int i = 0; i < 24; i++) {
+        for (int i = 0; i < 9; i++) {
+            x.mark(0, i, i);
+        }
+        for (int i = 0; i < 25; i++) {
             x.feed(0x77656172, 0x2078292b, 0x28747777);
             x.text();
             x.feed(0x77656172, 0x20782b28, 0x742d7729);
